@@ -25,7 +25,7 @@ final class Dwarf {
     static final int INFO_ENTRIES = 12;
 
     static Bytes symbol(long name, int info, int section, long value, long size) {
-        return new Bytes().u32(name).u8(info, 0).u16(section).u64(value).u64(size);
+        return new Bytes().u32(name).u8(info, 0x9a).u16(section).u64(value).u64(size);
     }
 
     static byte[] with(byte[] file, int place, int... values) {

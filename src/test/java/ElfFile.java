@@ -7,6 +7,8 @@ import java.util.List;
  */
 final class ElfFile {
     static final int PROGBITS = 1;
+    /** Stands wherever the document says nothing of the bytes. */
+    private static final long NOISE = 0x9a9b9c9d9e9f9a9bL;
 
     private final List<String> names = new ArrayList<>();
     private final List<Integer> types = new ArrayList<>();
@@ -50,12 +52,12 @@ final class ElfFile {
         table = 64 + body.size();
         for (int i = 0; i < sections; i++) {
             boolean last = i == sections - 1;
-            body.u32(nameOffsets.get(i)).u32(last ? 3 : types.get(i)).u64(0).u64(0);
+            body.u32(nameOffsets.get(i)).u32(last ? 3 : types.get(i)).u64(NOISE).u64(NOISE);
             body.u64(places.get(i)).u64(last ? texts.size() : contents.get(i).size());
-            body.u64(0).u64(0).u64(0);
+            body.u64(NOISE).u64(NOISE).u64(NOISE);
         }
-        Bytes head = new Bytes().u8(127, 69, 76, 70, 2, 1, 1, 0).u64(0).u16(1).u16(62).u32(1);
-        head.u64(0).u64(0).u64(table).u32(0).u16(64).u16(0).u16(0).u16(64).u16(sections).u16(sections - 1);
+        Bytes head = new Bytes().u8(127, 69, 76, 70, 2, 1, 1, 9).u64(NOISE).u64(NOISE).u64(NOISE).u64(NOISE);
+        head.u64(table).u64(NOISE).u16(NOISE).u16(64).u16(sections).u16(sections - 1);
         return head.add(body).toArray();
     }
 

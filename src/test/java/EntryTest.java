@@ -10,7 +10,9 @@ public final class EntryTest {
         references();
         origins();
         longOrigins();
+        manyReferences();
         calls();
+        allAtOnce();
         severalAlike();
         wrongArguments();
         Due.finish("EntryTest");
@@ -211,6 +213,32 @@ public final class EntryTest {
         Due.is("eight origins away", x.entry(2, 6), 1);
         Due.is("one origin away", x.entry(9, 6), 1);
         Due.is("its own", x.entry(10, 6), 1);
+    }
+
+    /** 1760 of them: all are looked at, up to the last one. */
+    private static void manyReferences() {
+        Bytes b = new Bytes().u8(1, 17, 1, 0, 0, 2, 46, 0).times(16, new Bytes().u8(50, 19)).u8(0, 0, 0);
+        Bytes e = new Bytes().u8(1).times(110, new Bytes().u8(2).times(16, new Bytes().u32(12))).u8(0);
+        ElfFile elf = Dwarf.file(b, e);
+        byte[] file = elf.build();
+        Due.taken("many references", file, 111);
+        int last = elf.placeOf(".debug_info") + 12 + e.size() - 5;
+        Due.refused("the last of many", Dwarf.with(file, last, 11), 3, last);
+    }
+
+    /** An entry with all that matters: nothing of it takes the place of another. */
+    private static void allAtOnce() {
+        long[] pairs = {88, 11, 89, 11, 71, 19, 3, 8, 17, 1, 18, 11, 85, 23, 16, 23};
+        Bytes b = new Bytes().add(Dwarf.code(1, 17, 1)).add(Dwarf.code(2, 29, 0, pairs)).u8(0);
+        Bytes e = new Bytes().u8(1, 2, 7, 8).u32(12).text("name").u64(500).u8(9).u32(1).u32(2).u8(0);
+        AddressNamer x = Due.taken("all at once", Dwarf.file(b, e).build(), 2);
+        int[] due = {29, 0, 0, 0, 1, x.entry(0, 5) + 1, 4, 7, 8};
+        for (int what = 0; what < 9; what++) {
+            Due.is("entry(1, " + what + ")", x.entry(1, what), due[what]);
+        }
+        Due.is("from LOW on", x.holds(1, 500), true);
+        Due.is("below HIGH", x.holds(1, 508), true);
+        Due.is("not at HIGH", x.holds(1, 509), false);
     }
 
     private static void calls() {

@@ -6,6 +6,8 @@ public final class FindTest {
         filesWithoutRows();
         callsAsInts();
         rowsOfOtherUnits();
+        filesOfOtherUnits();
+        lastRow();
         firstOfSeveral();
         deepChain();
         withoutChain();
@@ -140,6 +142,40 @@ public final class FindTest {
         frame(x, 0, 1, 1, null, "bb.c");
         chain(x, 115, 1);
         frame(x, 0, 1, 7, null, "qq.c");
+    }
+
+    /** A unit's numbers mean its own files: one behind its last isn't the next unit's first. */
+    private static void filesOfOtherUnits() {
+        Bytes b = new Bytes().add(Dwarf.code(1, 46, 1, 17, 1, 18, 11, 16, 23))
+                .add(Dwarf.code(2, 29, 0, 17, 1, 18, 11, 88, 11)).u8(0);
+        Bytes info = new Bytes();
+        for (int u = 0; u < 2; u++) {
+            info.add(Dwarf.unit(new Bytes().u8(1).u64(100 + 50 * u).u8(10).u32(0)
+                    .u8(2).u64(100 + 50 * u).u8(5).u8(2).u8(2).u64(105 + 50 * u).u8(5).u8(1).u8(0)));
+        }
+        AddressNamer x = Due.taken("files of two units", new ElfFile().add(".debug_abbrev", b)
+                .add(".debug_info", info).add(".debug_line", new LineTable().build()).build(), 6);
+        for (int u = 0; u < 2; u++) {
+            chain(x, 100 + 50 * u, 1 + 3 * u, 3 * u);
+            frame(x, 1, 2, 0, null, null);
+            chain(x, 105 + 50 * u, 2 + 3 * u, 3 * u);
+            frame(x, 1, 1, 0, null, "bb.c");
+        }
+    }
+
+    /** Each row governs from its own address on, the last but one of 600, too. */
+    private static void lastRow() {
+        Bytes b = new Bytes().add(Dwarf.code(1, 46, 0, 17, 1, 18, 5, 16, 23)).u8(0);
+        Bytes p = new Bytes().add(LineTable.setAddress(100)).times(598, new Bytes().u8(1)).u8(2, 5, 3, 8, 1, 2, 7);
+        LineTable t = new LineTable().program(p.add(LineTable.endSequence()));
+        AddressNamer x = Due.taken("600 rows", Dwarf.file(b, new Bytes().u8(1).u64(100).u16(50).u32(0))
+                .add(".debug_line", t.build()).build(), 1);
+        int[][] due = {{100, 1, 1}, {104, 1, 1}, {105, 1, 9}, {111, 1, 9}, {112, 0, 0}};
+        for (int[] d : due) {
+            x.find(d[0]);
+            Due.is("file at " + d[0], x.frame(0, 1), d[1]);
+            Due.is("line at " + d[0], x.frame(0, 2), d[2]);
+        }
     }
 
     private static void firstOfSeveral() {

@@ -5,6 +5,7 @@ public final class KeepTest {
         changedTape();
         refusedAtEachStage();
         anotherFile();
+        filesGo();
         fullTape();
         Due.finish("KeepTest");
     }
@@ -115,13 +116,32 @@ public final class KeepTest {
         unchanged("the sample again", x);
     }
 
+    /** A unit without lines has no files, though one with lines was read in its place before. */
+    private static void filesGo() {
+        AddressNamer x = sample();
+        x.load();
+        Bytes b = new Bytes().add(Dwarf.code(1, 46, 0, 17, 1, 18, 11)).add(Dwarf.code(2, 17, 0, 16, 23)).u8(0);
+        Bytes info = new Bytes().add(Dwarf.unit(new Bytes().u8(1).u64(100).u8(10)))
+                .add(Dwarf.unit(new Bytes().u8(2).u32(0)));
+        Due.put(x, new ElfFile().add(".debug_abbrev", b).add(".debug_info", info)
+                .add(".debug_line", new LineTable().build()).build());
+        Due.is("load()", x.load(), 2);
+        Due.is("count(7)", x.count(7), 2);
+        Due.is("find", x.find(105), 1);
+        Due.is("file 0", x.frame(0, 1), 0);
+        Due.is("none such", x.frame(0, 4), -1);
+        Due.is("no sign", x.file(0, 0), -1);
+    }
+
     private static void fullTape() {
-        Bytes filler = new Bytes().times(8000 - 64 - 4 * 64 - 23, new Bytes().u8(1));
-        Bytes name = new Bytes().raw("abc");
-        byte[] file = new ElfFile().add("filler", filler).add("n", name).build();
+        Bytes filler = new Bytes().times(8000 - 64 - 5 * 64 - 34 - 24 - 3, new Bytes().u8(1));
+        byte[] file = new ElfFile().add("filler", filler).add(".symtab", Dwarf.symbol(0, 2, 1, 5, 5))
+                .add(".strtab", new Bytes().text("ab")).build();
         Due.is("its size", file.length, 8000);
         AddressNamer x = Due.taken("a full tape", file, 0);
         Due.is("count(0)", x.count(0), 8000);
-        Due.is("count(1)", x.count(1), 4);
+        Due.is("count(1)", x.count(1), 5);
+        x.find(5);
+        Due.text("its symbol's name", k -> x.name(-1, k), "ab");
     }
 }

@@ -83,6 +83,7 @@ public final class LineTest {
             {"length", 0, new int[] {239, 255, 255, 255}, 1, 0}, {"length", 0, new int[] {good.size() - 3}, 1, 0},
             {"no version", 0, new int[] {1}, 1, 4}, {"version", 4, new int[] {4}, 2, 4},
             {"version", 5, new int[] {1}, 2, 4}, {"size", 6, new int[] {4}, 2, 6}, {"segment", 7, new int[] {1}, 2, 7},
+            {"version", 4, new int[] {6}, 2, 4}, {"size", 6, new int[] {9}, 2, 6},
             {"head", 8, new int[] {good.size() - 11}, 1, 8}, {"head", 11, new int[] {255}, 1, 8},
             {"operations", 13, new int[] {0}, 2, 13}, {"operations", 13, new int[] {2}, 2, 13},
             {"default", 14, new int[] {2}, 2, 14}, {"default", 14, new int[] {255}, 2, 14},
@@ -150,6 +151,8 @@ public final class LineTest {
         LineTable t = new LineTable().program(new Bytes().u8(6, 6, 6));
         int end = t.programPlace();
         taken("a head", t);
+        t.isStatement = 0;
+        taken("default 0", t);
         t.headMore = 1;
         refused("a head that is told longer", t.build(), 2, end);
         t.headMore = -1;

@@ -63,6 +63,9 @@ public final class SectionTest {
         Due.taken("type 8 need not lie in the file", Dwarf.with(away, row + 4, 8), 0);
         Due.refused("type 9 must", Dwarf.with(away, row + 4, 9), 1, row);
         Due.refused("type 256 must", Dwarf.with(away, row + 4, 0, 1), 1, row);
+        Due.taken("a section at 0", Dwarf.with(file, row + 24, new Bytes().u64(0)), 0);
+        Due.refused("row 0 is one of them", Dwarf.with(Dwarf.with(file, elf.rowOf(0) + 4, 1), elf.rowOf(0) + 31, 1),
+                1, elf.rowOf(0));
         Due.refused("row 2 ahead of the names of row 0",
                 Dwarf.with(Dwarf.with(file, elf.rowOf(2) + 31, 9), elf.rowOf(0), 255), 1, elf.rowOf(2));
     }
@@ -90,7 +93,8 @@ public final class SectionTest {
         Due.is("the first of a name", Due.taken("two of a name", first.build(), 0).count(2), 1);
         ElfFile empty = new ElfFile().add(".symtab", 8, one).add(".symtab", one).add(".strtab", texts);
         Due.is("the first has no bytes", Due.taken("first of type 8", empty.build(), 0).count(2), 0);
-        ElfFile longer = new ElfFile().add(".symtabs", one).add(".symta", one).add(".strtab", texts);
+        ElfFile longer = new ElfFile().add(".symtabs", one).add(".symta", one).add("-symtab", one)
+                .add(".symtaB", one).add(".strtab", texts);
         Due.is("other names", Due.taken("other names", longer.build(), 0).count(2), 0);
         ElfFile without = new ElfFile().add(".symtab", one);
         byte[] file = without.build();
@@ -107,6 +111,11 @@ public final class SectionTest {
         Due.refused("value below 0", Dwarf.with(file, row + 15, 128), 2, row);
         Due.refused("size below 0", Dwarf.with(file, row + 23, 128), 2, row);
         Due.refused("both below 0", Dwarf.with(Dwarf.with(file, row + 15, 127), row + 23, 127), 2, row);
+        Due.refused("value below 0, both together not",
+                Dwarf.with(file, row + 8, new Bytes().u64(-5).u64(10)), 2, row);
+        Due.refused("size below 0, both together not",
+                Dwarf.with(file, row + 8, new Bytes().u64(10).u64(-5)), 2, row);
+        Due.taken("value 0", Dwarf.with(file, row + 8, new Bytes().u64(0).u64(1)), 0);
         Due.taken("both together just fit", Dwarf.with(file, row + 8,
                 new Bytes().u64(Long.MAX_VALUE - 5).u64(5)), 0);
         Due.refused("both together by one too much", Dwarf.with(file, row + 8,

@@ -32,6 +32,9 @@ public final class UnitTest {
         Due.refused("no size of addresses", Dwarf.with(file, at, 3), 1, at + 7);
         Due.refused("no offset", Dwarf.with(file, at, 7), 1, at + 8);
         Due.refused("version 4", Dwarf.with(file, at + 4, 4), 2, at + 4);
+        Due.refused("version 6", Dwarf.with(file, at + 4, 6), 2, at + 4);
+        Due.refused("kind 0", Dwarf.with(file, at + 6, 0), 2, at + 6);
+        Due.refused("addresses of 9", Dwarf.with(file, at + 7, 9), 2, at + 7);
         Due.refused("version 261", Dwarf.with(file, at + 5, 1), 2, at + 4);
         Due.refused("kind 2", Dwarf.with(file, at + 6, 2), 2, at + 6);
         Due.refused("addresses of 4", Dwarf.with(file, at + 7, 4), 2, at + 7);
