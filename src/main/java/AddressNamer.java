@@ -35,6 +35,7 @@ public final class AddressNamer {
     private static final int REFERENCES_MOST = TAPE_MOST / 4;
     /** From here on a length of four bytes would mean another form of file. */
     private static final long LENGTH_RESERVED = 4294967280L;
+    private static final long LOW_HALF = 4294967295L;
 
     private static final int HEAD_BYTES = 64;
     private static final int SECTION_BYTES = 64;
@@ -352,6 +353,15 @@ public final class AddressNamer {
         if (i >= 0 && i < cells.length) {
             cells[i] = v;
         }
+    }
+
+    /**
+     * So much more (a number without sign) than an address, or NONE where that lies beyond them all:
+     * a sum of 64 bits may have lost its highest one and look like an address then.
+     */
+    private static long above(long address, long more) {
+        long sum = address + more;
+        return sum < address ? NONE : sum;
     }
 
     /**
@@ -1403,7 +1413,8 @@ public final class AddressNamer {
                 if (entries.isTold(e, LOW) && entries.isTold(e, HIGH)) {
                     add(in, low, entries.valueOr(e, HIGH, 0), entries.placeOf(e));
                 } else if (entries.isTold(e, LOW) && entries.isTold(e, HIGH_ABOVE_LOW)) {
-                    add(in, low, low + entries.valueOr(e, HIGH_ABOVE_LOW, 0), entries.placeOf(e));
+                    long more = entries.valueOr(e, HIGH_ABOVE_LOW, 0);
+                    add(in, low, above(low, more), entries.placeOf(e));
                 } else if (entries.isTold(e, RANGE_LIST)) {
                     base = entries.valueOr(image.units.firstEntryOf(entries.unitOf(e)), LOW, 0);
                     readList(in, sections, entries.valueOr(e, RANGE_LIST, 0), entries.placeOf(e));
@@ -1433,8 +1444,8 @@ public final class AddressNamer {
                 case 0:
                     return false;
                 case 4:
-                    first = base + in.uleb();
-                    add(in, first, base + in.uleb(), row);
+                    first = above(base, in.uleb());
+                    add(in, first, above(base, in.uleb()), row);
                     return true;
                 case 5:
                     base = in.number(8);
@@ -1448,7 +1459,7 @@ public final class AddressNamer {
                     return true;
                 case 7:
                     first = in.number(8);
-                    add(in, first, first + in.uleb(), row);
+                    add(in, first, above(first, in.uleb()), row);
                     return true;
                 default:
                     in.refuse(WRONG, row);
@@ -1505,6 +1516,9 @@ public final class AddressNamer {
         private long address;
         private long file;
         private long line;
+        /** How often the address and the line ran over 64 bits: such a one is no address, no line. */
+        private int addressTurns;
+        private int lineTurns;
         /** Whether the sequence has a row already. */
         private boolean begun;
 
@@ -1613,9 +1627,10 @@ public final class AddressNamer {
         }
 
         private void beginSequence() {
-            address = 0;
+            setAddress(0);
             file = 1;
             line = 1;
+            lineTurns = 0;
             begun = false;
         }
 
@@ -1634,19 +1649,19 @@ public final class AddressNamer {
                     addRow(in, place, 0);
                     break;
                 case 2:
-                    address += least * in.uleb();
+                    advanceSteps(in.uleb());
                     break;
                 case 3:
-                    line += in.sleb();
+                    advanceLine(in.sleb());
                     break;
                 case 4:
                     file = in.uleb();
                     break;
                 case 8:
-                    address += (long) least * rangesIn(255 - opcodeBase);
+                    advanceSteps(rangesIn(255 - opcodeBase));
                     break;
                 case 9:
-                    address += in.number(2);
+                    advance(in.number(2));
                     break;
                 default:
                     skipOperands(in, at(operands, opcode));
@@ -1660,9 +1675,41 @@ public final class AddressNamer {
 
         private void runSpecial(Cursor in, int place, int steps) {
             int ranges = rangesIn(steps);
-            address += (long) least * ranges;
-            line += lineBase + (steps - ranges * lineRange);
+            advanceSteps(ranges);
+            advanceLine(lineBase + (steps - ranges * lineRange));
             addRow(in, place, 0);
+        }
+
+        private void setAddress(long value) {
+            address = value;
+            addressTurns = 0;
+        }
+
+        /** The number is one without sign: the address never becomes less. */
+        private void advance(long more) {
+            long sum = address + more;
+            if (sum < address) {
+                addressTurns++;
+            }
+            address = sum;
+        }
+
+        /** The product may have more than 64 bits: made of the halves it tells what lies above them. */
+        private void advanceSteps(long steps) {
+            long low = least * (steps & LOW_HALF);
+            long high = least * (steps >>> 32) + (low >>> 32);
+            addressTurns += (int) (high >>> 32);
+            advance(least * steps);
+        }
+
+        private void advanceLine(long more) {
+            long sum = line + more;
+            if (more >= 0 && sum < line) {
+                lineTurns++;
+            } else if (more < 0 && sum > line) {
+                lineTurns--;
+            }
+            line = sum;
         }
 
         private void runExtended(Cursor in, int place) {
@@ -1684,7 +1731,7 @@ public final class AddressNamer {
                 addRow(in, place, 1);
                 beginSequence();
             } else if (kind == 2) {
-                address = in.numberAt(body + 1, 8);
+                setAddress(in.numberAt(body + 1, 8));
             }
         }
 
@@ -1696,8 +1743,8 @@ public final class AddressNamer {
 
         private void addRow(Cursor in, int place, int endsHere) {
             long earliest = begun ? at(addresses, total - 1) : 0;
-            boolean fits = address >= earliest && isRegister(file) && isRegister(line);
-            if (!fits) {
+            boolean follows = addressTurns == 0 && address >= earliest;
+            if (!follows || !isRegister(file) || lineTurns != 0 || !isRegister(line)) {
                 in.refuse(WRONG, place);
             } else if (total >= ROWS_MOST) {
                 in.refuse(TOO_MANY, place);

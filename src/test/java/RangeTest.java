@@ -155,6 +155,9 @@ public final class RangeTest {
         list("4 backwards", new Bytes().u8(4).uleb(2, 1).u8(0), 2, 0);
         list("4 first no address", new Bytes().u8(4).uleb(Long.MAX_VALUE, Long.MAX_VALUE).u8(0), 2, 0);
         list("4 second no address", new Bytes().u8(4).uleb(1, Long.MAX_VALUE - 99).u8(0), 2, 0);
+        list("4 first beyond 64 bits", new Bytes().u8(4).uleb(-1, 0).u8(0), 2, 0);
+        list("4 both beyond 64 bits", new Bytes().u8(4).uleb(-100, -1).u8(0), 2, 0);
+        list("4 second beyond 64 bits", new Bytes().u8(4).uleb(0, -1).u8(0), 2, 0);
         list("5 no address", new Bytes().u8(5).u64(-1).u8(0), 2, 0);
         list("6 backwards", new Bytes().u8(6).u64(3).u64(2).u8(0), 2, 0);
         list("6 first no address", new Bytes().u8(6).u64(-1).u64(2).u8(0), 2, 0);
