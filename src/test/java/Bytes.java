@@ -43,6 +43,16 @@ final class Bytes {
         return this;
     }
 
+    /** A ULEB of just so many bytes: the last ones tell nothing but that it goes on up to there. */
+    Bytes padded(long value, int bytes) {
+        long rest = value;
+        for (int i = 1; i < bytes; i++) {
+            number(1, rest & 127 | 128);
+            rest >>>= 7;
+        }
+        return number(1, rest & 127);
+    }
+
     Bytes sleb(long value) {
         long rest = value;
         while (rest < -64 || rest > 63) {
@@ -75,6 +85,13 @@ final class Bytes {
             add(other);
         }
         return this;
+    }
+
+    /** Those from one on, below another one. */
+    Bytes part(int from, int to) {
+        Bytes some = new Bytes();
+        some.out.write(out.toByteArray(), from, to - from);
+        return some;
     }
 
     int size() {

@@ -35,6 +35,16 @@ final class Due {
         return w;
     }
 
+    static AddressNamer taken(String what, byte[] file) {
+        AddressNamer x = new AddressNamer();
+        put(x, file);
+        int entries = x.load();
+        is(what + ": fault(0)", x.fault(0), 0);
+        is(what + ": fault(1)", x.fault(1), AddressNamer.NONE);
+        is(what + ": load() told", entries, x.count(4));
+        return x;
+    }
+
     static AddressNamer taken(String what, byte[] file, int entries) {
         AddressNamer x = new AddressNamer();
         put(x, file);

@@ -31,6 +31,18 @@ final class ElfFile {
         return add(name, PROGBITS, content);
     }
 
+    /** Row 0 becomes a section of its own, ahead of all others. */
+    ElfFile first(String name, Bytes content) {
+        names.set(0, name);
+        types.set(0, PROGBITS);
+        contents.set(0, content);
+        return this;
+    }
+
+    void retype(String name, int type) {
+        types.set(names.indexOf(name), type);
+    }
+
     byte[] build() {
         int sections = names.size() + 1;
         Bytes texts = new Bytes();
