@@ -19,6 +19,7 @@ public final class FindEdgeTest {
         callOfTheOneAhead();
         callsAsInts();
         filesFromZeroOn();
+        filesOfOtherUnits();
         symbolFromValueOn();
         symbolWithTheGreatestValue();
         Due.finish("FindEdgeTest");
@@ -320,6 +321,27 @@ public final class FindEdgeTest {
             Due.is("its first sign", x.file(1, 0), d[0] == 0 ? 'a' : d[0] == 1 ? 'b' : -1);
             Due.is("its last sign", x.file(1, d[1] - 1), d[1] > 0 ? 'c' : -1);
             Due.is("behind its last sign", x.file(1, Math.max(0, d[1])), -1);
+        }
+    }
+
+    /** A number below 0 isn't one of the files of the unit ahead, nor one above the last of the unit behind. */
+    private static void filesOfOtherUnits() {
+        Bytes codes = new Bytes().add(Dwarf.code(1, 46, 1, 17, 1, 18, 11, 16, 23))
+                .add(Dwarf.code(2, 29, 0, 17, 1, 18, 11, 88, 6)).u8(0);
+        int[][] due = {{-2, -1}, {-1, -1}, {0, 3}, {1, 4}, {2, -1}};
+        for (int[] d : due) {
+            Bytes info = new Bytes();
+            for (int u = 0; u < 3; u++) {
+                info.add(Dwarf.unit(new Bytes().u8(1).u64(100 * u).u8(10).u32(0)
+                        .u8(2).u64(100 * u).u8(10).u32(d[0]).u8(0)));
+            }
+            AddressNamer x = Due.taken("three units", new ElfFile().add(".debug_abbrev", codes)
+                    .add(".debug_info", info).add(".debug_line", new LineTable().build()).build(), 6);
+            for (int u = 0; u < 3; u++) {
+                x.find(100 * u);
+                Due.is("signs of FILE " + d[0] + " of unit " + u, x.frame(1, 4), d[1]);
+                Due.is("its first sign", x.file(1, 0), d[0] == 0 ? 'a' : d[0] == 1 ? 'b' : -1);
+            }
         }
     }
 

@@ -71,6 +71,7 @@ public final class RefusedTest {
                     faults[x.fault(0)]++;
                     Due.is("count(0)", x.count(0), FILE.length);
                     same("byte " + i + " as " + v, x, due);
+                    takenBehindIt(address, i, v, due);
                 }
             }
         }
@@ -83,6 +84,18 @@ public final class RefusedTest {
             Due.is("load() of " + size, x.load(), AddressNamer.NONE);
             same("the first " + size, x, due);
         }
+    }
+
+    /** The file is well again: it is taken as if nothing had been refused. */
+    private static void takenBehindIt(long address, int i, int v, List<Long> due) {
+        AddressNamer x = new AddressNamer();
+        Due.put(x, FILE);
+        x.poke(i, v);
+        x.load();
+        x.poke(i, FILE[i]);
+        Due.is("load() behind a refused one", x.load(), Sample.ENTRIES);
+        x.find(address);
+        same("behind byte " + i + " as " + v, x, due);
     }
 
     private static void refusedEnds(long address, List<Long> due) {

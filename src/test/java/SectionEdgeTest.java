@@ -148,7 +148,7 @@ public final class SectionEdgeTest {
         }
         long[][] outside = {{0, all + 1}, {1, all}, {all - 1, 2}, {all, 1}, {all + 1, 0}, {0, -1}, {-1, 0}, {-1, 1},
             {-1, 2}, {10, -10}, {Long.MAX_VALUE, 1}, {1, Long.MAX_VALUE}, {Long.MIN_VALUE, Long.MIN_VALUE},
-            {0, 1L << 32}, {1L << 32, 0}};
+            {0, 1L << 32}, {1L << 32, 0}, {0, 1L << 56}, {1L << 56, 0}, {0, Long.MIN_VALUE}};
         for (long[] p : outside) {
             Due.refused("from " + p[0] + " on " + p[1], placed(file, row, 1, p[0], p[1]), 1, row);
         }
