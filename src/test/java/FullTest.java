@@ -3,7 +3,7 @@ import java.math.BigInteger;
 /** Each "at most" filled up: what is told of the last one is its own, as of the first one. */
 public final class FullTest {
     /** So few at a time that no object is asked more often than the document allows. */
-    private static final int AT_A_TIME = 50;
+    private static final int AT_A_TIME = 40;
 
     public static void main(String[] args) {
         thirtySections();

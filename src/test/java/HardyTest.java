@@ -59,9 +59,9 @@ public final class HardyTest {
     }
 
     private static void eachLength(byte[] file) {
-        AddressNamer x = new AddressNamer();
-        Due.put(x, file);
         for (int n = file.length - 1; n >= 0; n--) {
+            AddressNamer x = new AddressNamer();
+            Due.put(x, file);
             x.end(n);
             loaded(x, "length " + n);
         }

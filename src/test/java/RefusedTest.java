@@ -1,8 +1,10 @@
 import java.util.ArrayList;
 import java.util.List;
 
-/** "What is refused changes nothing but what fault() tells." All answers are compared with those of an object
- *  that nothing was refused to. */
+/**
+ * "What is refused changes nothing but what fault() tells." All answers are compared with those of an
+ * object that nothing was refused to.
+ */
 public final class RefusedTest {
     private static final ElfFile ELF = Sample.elf();
     private static final byte[] FILE = ELF.build();
@@ -122,7 +124,7 @@ public final class RefusedTest {
         }
     }
 
-    /** On a full tape: its last bytes, which are a symbol's name, show that none came. */
+    /** On a tape without room for twenty bytes: none of them come, not even those that would find room. */
     private static void refusedFeed() {
         for (int left = 0; left < 20; left++) {
             int size = 8000 - left;
@@ -150,12 +152,17 @@ public final class RefusedTest {
             {ELF.placeOf(".debug_rnglists"), 9}, {ELF.placeOf(".debug_line") + 4, 9},
             {ELF.placeOf(".debug_line") + Sample.lines().build().size() - 1, 7}};
         for (int[] f : faults) {
-            AddressNamer x = new AddressNamer();
-            Due.put(x, Dwarf.with(FILE, f[0], f[1]));
-            Due.is("load()", x.load(), AddressNamer.NONE);
-            same("byte " + f[0], x, due);
+            same("byte " + f[0], refused(f), due);
+            AddressNamer x = refused(f);
             Due.is("find(1030)", x.find(1030), 0);
             same("byte " + f[0] + ", found", x, due);
         }
+    }
+
+    private static AddressNamer refused(int[] change) {
+        AddressNamer x = new AddressNamer();
+        Due.put(x, Dwarf.with(FILE, change[0], change[1]));
+        Due.is("load()", x.load(), AddressNamer.NONE);
+        return x;
     }
 }

@@ -318,6 +318,10 @@ public final class SectionEdgeTest {
         for (long size : sizes) {
             Due.is("size " + size, symbols(Dwarf.symbol(0, 2, 1, 1, size)), size == 0 ? 0 : 1);
         }
+        Bytes one = Dwarf.symbol(0, 2, 1, 1, 1);
+        ElfFile between = new ElfFile().add("ahead", one).add(".symtab", one).add("behind", one)
+                .add(".strtab", new Bytes().text("a"));
+        Due.is("rows just beside the section", Due.taken("between", between.build(), 0).count(2), 1);
         Due.is("no function, all wrong", symbols(Dwarf.symbol(-1, 1, 1, -1, -1)), 0);
         Due.is("no section, all wrong", symbols(Dwarf.symbol(-1, 2, 0, -1, -1)), 0);
         Due.is("no size, all wrong", symbols(Dwarf.symbol(-1, 2, 1, -1, 0)), 0);
